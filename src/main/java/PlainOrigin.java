@@ -199,7 +199,6 @@ public final class PlainOrigin {
 
         Bytes(int most) {
             cells = new int[most];
-            count = 0;
         }
 
         void clear() {
@@ -428,10 +427,8 @@ public final class PlainOrigin {
             nameTo = new int[MOST_FIELDS];
             valueFrom = new int[MOST_FIELDS];
             valueTo = new int[MOST_FIELDS];
-            fieldCount = 0;
             elementFrom = new int[MOST_ELEMENTS];
             elementTo = new int[MOST_ELEMENTS];
-            elementCount = 0;
         }
 
         void clear() {
@@ -560,12 +557,6 @@ public final class PlainOrigin {
             fields = new Fields();
             path = new Bytes(MOST_LINE_BYTES);
             body = new Bytes(MOST_BODY_BYTES);
-            method = null;
-            lastDigit = '1';
-            isChunked = false;
-            bodyLength = 0;
-            awaitsContinue = false;
-            isLast = false;
         }
 
         void clear() {
@@ -573,7 +564,7 @@ public final class PlainOrigin {
             path.clear();
             body.clear();
             method = null;
-            lastDigit = '1';
+            lastDigit = 0;
             isChunked = false;
             bodyLength = 0;
             awaitsContinue = false;
@@ -705,9 +696,6 @@ public final class PlainOrigin {
             line = new Bytes(MOST_LINE_BYTES);
             request = new Request();
             stage = REQUEST_LINE;
-            afterCr = false;
-            chunkLeft = 0;
-            trailers = 0;
         }
 
         void restart() {
@@ -883,7 +871,6 @@ public final class PlainOrigin {
             for (int k = 0; k < RESOURCES; k++) {
                 resources[k] = new Resource();
             }
-            changeCount = 0;
         }
 
         /** The place that a path names, or null. */
@@ -933,11 +920,6 @@ public final class PlainOrigin {
         private int first;
         private int last;
 
-        Range() {
-            first = NONE;
-            last = NONE;
-        }
-
         /** Whether there is just one range and it is of a form that is told. */
         boolean take(Fields fields) {
             int f = fields.indexOf("range");
@@ -981,25 +963,14 @@ public final class PlainOrigin {
         Answer() {
             range = new Range();
             letters = new Bytes(RESOURCES);
-            number = NONE;
-            tag = NONE;
-            allows = false;
-            closes = false;
-            keepsAlive = false;
-            toldLength = 0;
             body = letters;
-            from = 0;
-            to = 0;
-            wholeLength = 0;
         }
 
-        /** A response of this number without a body. */
+        /** A response of this number without a body; whether it closes is told when it is sent. */
         void begin(int newNumber) {
             number = newNumber;
             tag = NONE;
             allows = false;
-            closes = false;
-            keepsAlive = false;
             toldLength = 0;
             body = letters;
             from = 0;
@@ -1102,7 +1073,6 @@ public final class PlainOrigin {
 
         Outbox() {
             kept = new Bytes(MOST_KEPT_BYTES);
-            total = 0;
         }
 
         void empty() {
