@@ -150,6 +150,7 @@ public final class ResponseTest {
         part(c, "bytes=-5", "hello", "0-4/5");
         part(c, "bytes=-6", "hello", "0-4/5");
         part(c, "bytes=-999999999", "hello", "0-4/5");
+        part(c, "bytes=-2", "lo", "3-4/5");
         Client.due("all of it behind a range", c.exchange(Client.get("/a")), whole("hello", 1));
         String[] beyond = {"5-", "5-5", "5-9", "999999999-", "999999999-999999999"};
         for (String range : beyond) {
