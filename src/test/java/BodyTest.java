@@ -20,21 +20,21 @@ public final class BodyTest {
         holds("PUT /a HTTP/1.1\r\nHost: x\r\n\r\n", "");
         Client c = new Client();
         Client.due("all but the last byte", c.send("PUT /a HTTP/1.1\r\nHost: x\r\nContent-Length: 2\r\n\r\na"), 0);
-        Client.due("not there yet", c.origin.size(0), -1);
+        Client.due("not there yet", c.asked().size(0), -1);
         Client.due("the last byte", c.send("b"), 1);
         Client.due("a body and the next request in one piece", c.send(Client.put("/b", "cde") + Client.get("/b")), 2);
-        Client.due("the body ends where it is told", c.origin.size(1), 3);
+        Client.due("the body ends where it is told", c.asked().size(1), 3);
     }
 
     private static void holds(String wire, String content) {
         Client c = new Client();
         Client.due("a body: responses", c.send(wire), 1);
-        Client.due("a body: number", c.origin.status(), 201);
-        Client.due("a body: reading", c.origin.reading(), 0);
-        Client.due("a body: size", c.origin.size(0), content.length());
+        Client.due("a body: number", c.asked().status(), 201);
+        Client.due("a body: reading", c.asked().reading(), 0);
+        Client.due("a body: size", c.asked().size(0), content.length());
         StringBuilder got = new StringBuilder();
-        for (int i = 0; i < c.origin.size(0); i++) {
-            got.append((char) c.origin.at(0, i));
+        for (int i = 0; i < c.asked().size(0); i++) {
+            got.append((char) c.asked().at(0, i));
         }
         Client.due("a body: bytes", got.toString(), content);
     }
@@ -47,7 +47,7 @@ public final class BodyTest {
         holds(CHUNKED + "C8\r\n" + "y".repeat(200) + "\r\n0\r\n\r\n", "y".repeat(200));
         Client c = new Client();
         Client.due("not before the empty line", c.send(CHUNKED + "1\r\na\r\n0\r\n\r"), 0);
-        Client.due("not there yet", c.origin.size(0), -1);
+        Client.due("not there yet", c.asked().size(0), -1);
         Client.due("the empty line", c.send("\n" + Client.get("/a")), 2);
     }
 
@@ -98,8 +98,8 @@ public final class BodyTest {
         Client c = new Client();
         String four = last + "Connection: close\r\n" + "If-None-Match: *\r\n".repeat(3) + "\r\n";
         Client.due("they are not used", c.send(four + four), 2);
-        Client.due("they are not used: number", c.origin.status(), 204);
-        Client.due("they are not used: open", c.origin.isOpen(), true);
+        Client.due("they are not used: number", c.asked().status(), 204);
+        Client.due("they are not used: open", c.asked().isOpen(), true);
     }
 
     private static void bodiesThatAreNotUsed() {
@@ -109,8 +109,8 @@ public final class BodyTest {
         int[] numbers = {200, 200, 204, 204, 405};
         for (int k = 0; k < methods.length; k++) {
             Client.due(methods[k] + " with a body", c.send(methods[k] + " /a HTTP/1.1\r\nHost: x\r\n" + body), 1);
-            Client.due(methods[k] + ": number", c.origin.status(), numbers[k]);
-            Client.due(methods[k] + ": reading", c.origin.reading(), 0);
+            Client.due(methods[k] + ": number", c.asked().status(), numbers[k]);
+            Client.due(methods[k] + ": reading", c.asked().reading(), 0);
         }
     }
 }

@@ -111,13 +111,13 @@ public final class FaceTest {
     private static void closedIgnoresBytes() {
         Client c = new Client();
         c.send("\n");
-        Client.due("closed", c.origin.isOpen(), false);
-        int sent = c.origin.sent();
+        Client.due("closed", c.asked().isOpen(), false);
+        int sent = c.asked().sent();
         Client.due("a request when closed", c.send(Client.put("/a", "x")), 0);
-        Client.due("sent", c.origin.sent(), sent);
-        Client.due("status", c.origin.status(), 400);
-        Client.due("reading", c.origin.reading(), -1);
-        Client.due("size", c.origin.size(0), -1);
+        Client.due("sent", c.asked().sent(), sent);
+        Client.due("status", c.asked().status(), 400);
+        Client.due("reading", c.asked().reading(), -1);
+        Client.due("size", c.asked().size(0), -1);
         Client.due("bytes behind the last request of a connection",
                 new Client().send(Client.get("/a", "Connection: close") + Client.get("/a")), 1);
     }
@@ -185,21 +185,13 @@ public final class FaceTest {
             c.send(Client.get("/a"));
         }
         Client.due("sent beyond 2000", x.sent(), 10 * one.length());
-        Client.due("out(249)", x.out(249), word(one.repeat(10), 249));
-        Client.due("out(248)", x.out(248), word(one.repeat(10), 248));
-        Client.due("out(0)", x.out(0), word(one, 0));
+        Client.due("out(249)", x.out(249), Client.word(one.repeat(10), 8 * 249, 8));
+        Client.due("out(248)", x.out(248), Client.word(one.repeat(10), 8 * 248, 8));
+        Client.due("out(0)", x.out(0), Client.word(one, 0, 8));
         Client.due("drain beyond 2000", x.drain(), 10 * one.length());
         Client.due("drained: out(249)", x.out(249), 0L);
         c.send(Client.get("/a"));
         Client.due("out begins anew behind a drain", c.output(), one);
-    }
-
-    private static long word(String text, int i) {
-        long value = 0;
-        for (int k = 7; k >= 0; k--) {
-            value = value << 8 | text.charAt(8 * i + k);
-        }
-        return value;
     }
 
     private static void outRefusesWrongIndexes() {
@@ -213,15 +205,15 @@ public final class FaceTest {
     private static void statusIsTheLatest() {
         Client c = new Client();
         c.send(Client.put("/a", "x"));
-        Client.due("status", c.origin.status(), 201);
+        Client.due("status", c.asked().status(), 201);
         c.send("GET /a HTTP/1.1\r\nHo");
-        Client.due("status while reading", c.origin.status(), 201);
+        Client.due("status while reading", c.asked().status(), 201);
         c.send("st: x\r\n\r\n" + Client.get("/b"));
-        Client.due("status of two", c.origin.status(), 404);
+        Client.due("status of two", c.asked().status(), 404);
         c.send("PUT /a HTTP/1.1\r\nHost: x\r\nExpect: 100-continue\r\nContent-Length: 1\r\n\r\n");
-        Client.due("status 100", c.origin.status(), 100);
+        Client.due("status 100", c.asked().status(), 100);
         c.send("y");
-        Client.due("status behind 100", c.origin.status(), 204);
+        Client.due("status behind 100", c.asked().status(), 204);
     }
 
     private static void readingTellsTheStage() {
@@ -232,11 +224,11 @@ public final class FaceTest {
         int[] want = {0, 0, 1, 1, 1, 2, 2, 0, 1, 3, 3, 4, 4, 4, 3, 3, 5, 5, 5, 0, 0, -1};
         for (int k = 0; k < parts.length; k++) {
             c.send(parts[k]);
-            Client.due("reading, part " + k, c.origin.reading(), want[k]);
+            Client.due("reading, part " + k, c.asked().reading(), want[k]);
         }
         Client last = new Client();
         last.send(Client.get("/a", "Connection: close"));
-        Client.due("reading behind the last request", last.origin.reading(), -1);
+        Client.due("reading behind the last request", last.asked().reading(), -1);
     }
 
     private static void sizeAtMark() {

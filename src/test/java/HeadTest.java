@@ -48,16 +48,10 @@ public final class HeadTest {
         Client.failsAtEnd(POST + "Transfer-Encoding: gzip\r\nTransfer-Encoding: chunked\r\n\r\n", 501);
         String[] right = {"chunked", "CHUNKED", " , chunked ,\t,", "\tChunked"};
         for (String value : right) {
-            stage(POST + "TRANSFER-encoding:" + value + "\r\n\r\n", 3);
+            Client.readsOn(POST + "TRANSFER-encoding:" + value + "\r\n\r\n", 3);
         }
-        stage(POST + "Transfer-Encoding:\r\nTransfer-Encoding: chunked\r\n\r\n", 3);
-        stage(POST.replace("1.1", "1.7") + "Transfer-Encoding: chunked\r\n\r\n", 3);
-    }
-
-    private static void stage(String wire, int want) {
-        Client c = new Client();
-        Client.due(wire + ": responses", c.send(wire), 0);
-        Client.due(wire + ": reading", c.origin.reading(), want);
+        Client.readsOn(POST + "Transfer-Encoding:\r\nTransfer-Encoding: chunked\r\n\r\n", 3);
+        Client.readsOn(POST.replace("1.1", "1.7") + "Transfer-Encoding: chunked\r\n\r\n", 3);
     }
 
     private static void contentLength() {
@@ -72,10 +66,10 @@ public final class HeadTest {
         Client.failsAtEnd("POST /a HTTP/1.0\r\nContent-Length: 201\r\n\r\n", 413);
         String[] right = {"1", "200", "000000001", "1, 1,01", " ,2 ,\t2,"};
         for (String value : right) {
-            stage(POST + "content-LENGTH: " + value + "\r\n\r\n", 2);
+            Client.readsOn(POST + "content-LENGTH: " + value + "\r\n\r\n", 2);
         }
-        stage(POST + "Content-Length: 3\r\nContent-Length:\r\nContent-Length: 3\r\n\r\n", 2);
-        stage("POST /a HTTP/1.0\r\nContent-Length: 1\r\n\r\n", 2);
+        Client.readsOn(POST + "Content-Length: 3\r\nContent-Length:\r\nContent-Length: 3\r\n\r\n", 2);
+        Client.readsOn("POST /a HTTP/1.0\r\nContent-Length: 1\r\n\r\n", 2);
         Client.answers(POST + "Content-Length: 0\r\n\r\n", 404);
         Client.answers(POST + "Content-Length: 000000000\r\n\r\n", 404);
         Client.answers(POST + "\r\n", 404);
@@ -94,21 +88,21 @@ public final class HeadTest {
         for (String value : right) {
             Client c = new Client();
             Client.due("expect " + value, c.exchange(POST + body + "Expect: " + value + "\r\n\r\n"), hundred);
-            Client.due("its stage", c.origin.reading(), 2);
-            Client.due("open", c.origin.isOpen(), true);
+            Client.due("its stage", c.asked().reading(), 2);
+            Client.due("open", c.asked().isOpen(), true);
             Client.due("then the response", c.exchange("z"), Client.response(404, "", "Content-Length: 0"));
         }
         Client chunks = new Client();
         Client.due("chunks", chunks.exchange(POST + "Transfer-Encoding: chunked\r\nExpect: 100-continue\r\n\r\n"), hundred);
-        Client.due("their stage", chunks.origin.reading(), 3);
+        Client.due("their stage", chunks.asked().reading(), 3);
         Client.answers(POST + "Expect: 100-continue\r\n\r\n", 404);
         Client.answers(POST + "Content-Length: 0\r\nExpect: 100-continue\r\n\r\n", 404);
-        stage(POST + body + "Expect:\r\n\r\n", 2);
-        stage("POST /a HTTP/1.0\r\n" + body + "Expect: 100-continue\r\n\r\n", 2);
+        Client.readsOn(POST + body + "Expect:\r\n\r\n", 2);
+        Client.readsOn("POST /a HTTP/1.0\r\n" + body + "Expect: 100-continue\r\n\r\n", 2);
         Client two = new Client();
         Client.due("a 100 and a response", two.send(POST + body + "Expect: 100-continue\r\n\r\nz"), 2);
         Client.due("HTTP/1.0 behind it", two.send("POST /a HTTP/1.0\r\n" + body + "Expect: 100-continue\r\n\r\n"), 0);
-        stage("POST /a HTTP/1.0\r\n" + body + "Expect: tea\r\n\r\n", 2);
+        Client.readsOn("POST /a HTTP/1.0\r\n" + body + "Expect: tea\r\n\r\n", 2);
     }
 
     private static void order() {
@@ -147,7 +141,7 @@ public final class HeadTest {
     private static void persists(String head, String response, boolean open) {
         Client c = new Client();
         Client.due(head, c.exchange(head + "\r\n"), response);
-        Client.due(head + ": open", c.origin.isOpen(), open);
-        Client.due(head + ": reading", c.origin.reading(), open ? 0 : -1);
+        Client.due(head + ": open", c.asked().isOpen(), open);
+        Client.due(head + ": reading", c.asked().reading(), open ? 0 : -1);
     }
 }

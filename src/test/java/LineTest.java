@@ -47,7 +47,7 @@ public final class LineTest {
         Client.answers("\r\n\r\n\r\n" + Client.get("/a"), 404);
         Client c = new Client(3);
         Client.due("empty lines alone", c.send("\r\n".repeat(200)), 0);
-        Client.due("empty lines alone: reading", c.origin.reading(), 0);
+        Client.due("empty lines alone: reading", c.asked().reading(), 0);
         Client.due("then a request", c.send(Client.get("/a") + "\r\n" + Client.get("/b")), 2);
     }
 
@@ -116,6 +116,6 @@ public final class LineTest {
         Client large = new Client();
         String twelve = START + ("A:" + "b".repeat(78) + "\r\n").repeat(11) + Client.HOST + "\r\n";
         Client.due("twelve long fields, twice", large.send(twelve + twelve), 2);
-        Client.due("twelve long fields: number", large.origin.status(), 404);
+        Client.due("twelve long fields: number", large.asked().status(), 404);
     }
 }

@@ -21,8 +21,8 @@ public final class PieceTest {
         for (int piece = 2; piece <= 8; piece++) {
             Client c = new Client(piece);
             Client.due("pieces of " + piece + ": responses", c.send(wire), responses);
-            Client.due("pieces of " + piece + ": status", c.origin.status(), single.origin.status());
-            Client.due("pieces of " + piece + ": reading", c.origin.reading(), single.origin.reading());
+            Client.due("pieces of " + piece + ": status", c.asked().status(), single.asked().status());
+            Client.due("pieces of " + piece + ": reading", c.asked().reading(), single.asked().reading());
             Client.due("pieces of " + piece + ": sent", c.output(), output);
         }
     }
