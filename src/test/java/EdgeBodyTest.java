@@ -202,9 +202,10 @@ public final class EdgeBodyTest {
         Client.failsAtEnd(head + chunk(1) + "0\r\n" + "A: b\r\n".repeat(5), 431);
         String four = LAST + "A: b\r\n".repeat(4) + "\r\n";
         Client c = new Client();
-        Client.due("the number begins anew with each request", c.send(four + four + LAST + "A: b\r\n".repeat(4)), 2);
+        Client.due("the number begins anew with each request", c.exchange(four + four + LAST + "A: b\r\n".repeat(4)),
+                Client.empty(201) + Client.response(204, ""));
         c.asked().connect();
-        Client.due("and with each connection", c.send(four), 1);
+        Client.due("and with each connection", c.exchange(four), Client.response(204, ""));
     }
 
     private static void trailersAreNotUsed() {

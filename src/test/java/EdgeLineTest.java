@@ -46,6 +46,7 @@ public final class EdgeLineTest {
         fieldForm();
         valueBytes();
         twelveFields();
+        fieldsOfOneRequest();
         emptyLineEndsHead();
         Client.finish();
     }
@@ -460,10 +461,29 @@ public final class EdgeLineTest {
         Client.failsAtEnd(HEAD + "A: b\r\n".repeat(12) + "\r\n", 400);
         String full = HEAD + "A: b\r\n".repeat(11) + "Host: x\r\n\r\n";
         Client c = new Client();
-        Client.due("the number begins anew with each request", c.send(full + full + full), 3);
+        Client.due("the number begins anew with each request", c.exchange(full + full + full), Client.empty(404).repeat(3));
         c.send(HEAD + "A: b\r\n".repeat(12));
         c.asked().connect();
-        Client.due("and with each connection", c.send(full), 1);
+        Client.due("and with each connection", c.exchange(full), Client.empty(404));
+        String large = (FULL[1] + "\r\n").repeat(11) + "Host: x\r\n\r\n";
+        Client twice = Client.withA("hello");
+        Client.due("twelve full fields", twice.exchange(HEAD + large + HEAD + large), Client.whole("hello", 1).repeat(2));
+        Client none = Client.withA("hello");
+        Client.due("twelve fields without a host", none.exchange("GET /a HTTP/1.0\r\n" + "A: b\r\n".repeat(12) + "\r\n"),
+                Client.response(200, "hello", "Content-Length: 5", "ETag: \"1\"", "Connection: close"));
+    }
+
+    private static void fieldsOfOneRequest() {
+        Client.sentence("FIELDS follow, a line each: those of one request are not those of the next one.");
+        String[] fields = {"Range: bytes=1-1", "If-None-Match: *", "Expect: 100-continue", "Connection: keep-alive", "Content-Length: 0"};
+        for (String field : fields) {
+            Client c = Client.withA("hello");
+            c.send(Client.get("/a", field));
+            Client.due("behind " + field, c.exchange(Client.get("/a")), Client.whole("hello", 1));
+        }
+        Client c = Client.withA("hello");
+        c.send(Client.get("/a"));
+        Client.failsAtEnd(c, HEAD + "\r\n", 400);
     }
 
     private static void emptyLineEndsHead() {

@@ -34,6 +34,7 @@ public final class EdgeResponseTest {
         deleteOfNothing();
         contentLengthOrNone();
         etagOfAResource();
+        allowOfSome();
         connectionField();
         bodyOfGetAlone();
         Client.finish();
@@ -546,6 +547,22 @@ public final class EdgeResponseTest {
             is(c, range("bytes=9-"), beyond(5));
             is(c, Client.get("/"), Client.response(200, "a", "Content-Length: 1"));
             is(c, Client.get("/b"), Client.empty(404));
+        }
+    }
+
+    private static void allowOfSome() {
+        Client.sentence("Allow, \"GET, HEAD, PUT, POST, DELETE, OPTIONS\", for OPTIONS and 405.");
+        String[] methods = {"OPTIONS", "TRACE"};
+        String[] due = {Client.response(204, "", ALLOW), Client.response(405, "", "Content-Length: 0", ALLOW)};
+        for (int k = 0; k < methods.length; k++) {
+            String wire = Client.ask(methods[k], "/a");
+            Client c = Client.withA("hello");
+            is(c, wire + Client.get("/a"), due[k] + Client.whole("hello", 1));
+            is(c, wire + Client.ask("HEAD", "/b"), due[k] + Client.empty(404));
+            is(c, wire + range("bytes=5-"), due[k] + beyond(5));
+            is(c, wire + Client.put("/b", ""), due[k] + Client.empty(201));
+            is(c, wire + Client.put("/b", ""), due[k] + Client.response(204, ""));
+            is(c, wire + "\n", due[k] + Client.error(400));
         }
     }
 
