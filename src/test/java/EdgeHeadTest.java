@@ -224,6 +224,10 @@ public final class EdgeHeadTest {
             Client.failsAtEnd(NEW + "Content-Length:" + value + "\r\nContent-Length:" + END, 400);
             Client.readsOn(NEW + "Content-Length:" + value + "\r\nContent-Length: 1" + END, 2);
         }
+        // A number stands where the length of the request before stood, but is none of this one.
+        Client c = new Client();
+        c.send(NEW + "Content-Length: 1" + END + "z");
+        Client.failsAtEnd(c, NEW + "Another-Field-: 1" + "\r\nContent-Length:" + END, 400);
     }
 
     private static void lengthUpTo200() {
