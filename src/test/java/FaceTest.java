@@ -2,10 +2,27 @@ import java.lang.reflect.Constructor;
 import java.lang.reflect.Field;
 import java.lang.reflect.Method;
 import java.lang.reflect.Modifier;
+import java.util.List;
 import java.util.TreeSet;
 
 /** Promises 1 to 13, each at its own method: ordinary calls, edges and wrong arguments. */
 public final class FaceTest {
+    private static final String[] FACE = {
+        "public PlainOrigin()",
+        "public static final int NONE",
+        "public int feed(long,int) throws java.lang.IllegalArgumentException",
+        "public boolean isOpen()",
+        "public void connect()",
+        "public int sent()",
+        "public long out(int) throws java.lang.IndexOutOfBoundsException",
+        "public int drain()",
+        "public int status()",
+        "public int reading()",
+        "public int size(int) throws java.lang.IllegalArgumentException",
+        "public int at(int,int) throws java.lang.IllegalArgumentException,java.util.NoSuchElementException",
+        "public int mark(int) throws java.lang.IllegalArgumentException",
+        "public int changes()"};
+
     public static void main(String[] args) {
         publicFace();
         newObject();
@@ -25,26 +42,28 @@ public final class FaceTest {
         Client.finish();
     }
 
+    /** The members that are not private are those of the document, to the letter. */
     private static void publicFace() {
         TreeSet<String> seen = new TreeSet<>();
         for (Method m : PlainOrigin.class.getDeclaredMethods()) {
-            if (!Modifier.isPrivate(m.getModifiers())) {
-                seen.add(m.getReturnType() + " " + m.getName() + " " + m.getParameterCount());
-            }
+            show(seen, m.getModifiers(), m.toString());
         }
         for (Field f : PlainOrigin.class.getDeclaredFields()) {
-            if (!Modifier.isPrivate(f.getModifiers())) {
-                seen.add(Modifier.toString(f.getModifiers()) + " " + f.getName());
-            }
+            show(seen, f.getModifiers(), f.toString());
         }
         for (Constructor<?> c : PlainOrigin.class.getDeclaredConstructors()) {
-            seen.add(Modifier.toString(c.getModifiers()) + " constructor " + c.getParameterCount());
+            show(seen, c.getModifiers(), c.toString());
         }
-        Client.due("the face", seen.toString(), "[boolean isOpen 0, int at 2, int changes 0, int drain 0, "
-                + "int feed 2, int mark 1, int reading 0, int sent 0, int size 1, int status 0, long out 1, "
-                + "public constructor 0, public static final NONE, void connect 0]");
+        Client.due("the face", seen, new TreeSet<>(List.of(FACE)));
         Client.due("the class", Modifier.toString(PlainOrigin.class.getModifiers()), "public final");
+        Client.due("its package", PlainOrigin.class.getPackageName(), "");
         Client.due("NONE", PlainOrigin.NONE, -1);
+    }
+
+    private static void show(TreeSet<String> seen, int modifiers, String member) {
+        if (!Modifier.isPrivate(modifiers)) {
+            seen.add(member.replace("PlainOrigin.", ""));
+        }
     }
 
     private static void newObject() {
